@@ -498,6 +498,11 @@ public final class PastWeb {
         return x | y << 4 | z << 8;
     }
 
+    /** The bits of the parts in place of those variables. */
+    private static int partsInPlaceOf(int free) {
+        return (isIn(0, free) ? 15 : 0) | (isIn(1, free) ? 15 << 4 : 0) | (isIn(2, free) ? 15 << 8 : 0);
+    }
+
     /** A sure span and a wide one in one number, so that one walk through a term finds both. */
     private static long bothSpans(int sure, int may) {
         return (long) may << 32 | sure;
@@ -596,9 +601,9 @@ public final class PastWeb {
         /** At 16 * kind and the part: the parts to which its links lead, as bits. */
         private final int[] leads = new int[KINDS_OF_LINKS * PARTS];
 
-        private void begin() {
-            first = -1;
-            second = -1;
+        private void begin(int a, int b) {
+            first = a;
+            second = b;
             ahead = 0;
             before = 0;
             isRead = true;
@@ -740,9 +745,7 @@ public final class PastWeb {
 
         private int come(int a, int b) {
             State state = states[count];
-            state.begin();
-            state.first = a;
-            state.second = b;
+            state.begin(a, b);
             if (a >= 0) {
                 state.follow(states[a], a);
             }
@@ -770,9 +773,10 @@ public final class PastWeb {
         }
 
         private void note() {
-            for (; noted < count; noted++) {
-                noteState(states[noted], 1 << noted);
+            for (int i = noted; i < count; i++) {
+                noteState(states[i], 1 << i);
             }
+            noted = count;
         }
 
         private void noteState(State state, int bit) {
@@ -945,16 +949,34 @@ public final class PastWeb {
         final int free;
         final int cost;
         final int deep;
+        private final int ownParts;
+        /** The last answer: the same is often asked again, by terms that have it twice or in SOME. */
+        private long known;
+        private int knownFor;
+        private int knownAt;
 
         private Term(int kind, int free, int cost, int deep) {
             this.kind = kind;
             this.free = free;
             this.cost = cost;
             this.deep = deep;
+            ownParts = partsInPlaceOf(free);
+            knownAt = -1;
         }
 
         /** Its span and its wide span. Goes as deep as the term is: 60 terms are 60 deep at most. */
-        abstract long spans(Past past, int parts);
+        final long spans(Past past, int parts) {
+            int own = parts & ownParts;
+            if (knownAt != past.changes || knownFor != own) {
+                known = findSpans(past, own);
+                knownFor = own;
+                knownAt = past.changes;
+            }
+            return known;
+        }
+
+        /** What spans answers, for parts in place of the free variables alone. */
+        abstract long findSpans(Past past, int parts);
 
         int heft() {
             return cost + 10 * deep;
@@ -986,8 +1008,7 @@ public final class PastWeb {
             return u < PART_TOLD ? parts >> 4 * u & 15 : u - PART_TOLD;
         }
 
-        @Override
-        long spans(Past past, int parts) {
+        long findSpans(Past past, int parts) {
             int one = partFor(u, parts);
             int two = partFor(w, parts);
             switch (kind) {
@@ -1019,12 +1040,10 @@ public final class PastWeb {
             this.b = b;
         }
 
-        @Override
         int heft() {
             return super.heft() + 100;
         }
 
-        @Override
         void fail() {
             throw new IllegalStateException("the failure of a term of terms");
         }
@@ -1036,8 +1055,7 @@ public final class PastWeb {
             super(kind, a, b, a.free | b.free, cost);
         }
 
-        @Override
-        long spans(Past past, int parts) {
+        long findSpans(Past past, int parts) {
             long own = a.spans(past, parts);
             switch (kind) {
                 case NOT:
@@ -1056,13 +1074,11 @@ public final class PastWeb {
             super(kind, a, b, a.free | b.free, cost);
         }
 
-        @Override
         int heft() {
             return super.heft() + 1000;
         }
 
-        @Override
-        long spans(Past past, int parts) {
+        long findSpans(Past past, int parts) {
             long own = a.spans(past, parts);
             int sure = spanOf(own, false);
             int may = spanOf(own, true);
@@ -1091,17 +1107,14 @@ public final class PastWeb {
             this.variable = variable;
         }
 
-        @Override
         int heft() {
             return 2 * super.heft();
         }
 
-        @Override
-        long spans(Past past, int parts) {
-            int rest = parts & ~(15 << 4 * variable);
+        long findSpans(Past past, int parts) {
             long any = 0;
             for (int part = 0; part < PARTS; part++) {
-                any |= a.spans(past, rest | part << 4 * variable);
+                any |= a.spans(past, parts | part << 4 * variable);
             }
             return any;
         }

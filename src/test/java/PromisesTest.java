@@ -271,6 +271,13 @@ public final class PromisesTest {
         due("shelf stays", Check.element(web, 1, 0), "1");
         due("state(-1, -1)", web.state(-1, -1), 0);
         due("nothing is left", web.look(0, 4) + web.look(0, 5), 0);
+        web.state(0, -1);
+        web.undo();
+        web.state(-1, -1);
+        due("none is before it", web.look(1, 2), 0);
+        due("none is ahead of it", web.look(1, 0), -2);
+        due("nor for terms", sure(web, web.term(12, web.two(5, 0, 0, 0), 0)), 0);
+        web.undo();
         due("span of nothing", sure(web, there), 0);
         web.put(0, 0, 0);
         web.put(1, 0, 0);
@@ -290,6 +297,11 @@ public final class PromisesTest {
                 due("look(" + state + ", " + what + ")", web.look(state, what), due[state][what]);
             }
         }
+        web.state(3, 0);
+        due("look(7, 0)", web.look(7, 0), 3);
+        due("look(7, 1)", web.look(7, 1), 0);
+        due("look(7, 2)", web.look(7, 2), 11);
+        web.undo();
         due("look(-1, 0)", web.look(-1, 0), -1);
         due("look(7, 0)", web.look(7, 0), -1);
         due("look(0, -1)", web.look(0, -1), -1);
@@ -406,6 +418,25 @@ public final class PromisesTest {
         web.state(0, 1);
         web.gone(2);
         due("the first one ahead is asked: 2 to 0", web.part(3, 2, 5), 0);
+        web = new PastWeb();
+        web.state(-1, -1);
+        web.put(1, 1, 1);
+        web.put(2, 2, 2);
+        web.put(3, 3, 3);
+        web.state(0, -1);
+        web.gone(1);
+        web.gone(2);
+        web.put(0, 2, 2);
+        web.put(7, 3, 3);
+        web.put(8, 0, 0);
+        due("1 to none", web.part(1, 1, 5), -2);
+        due("2 to 0, which 1 did not take", web.part(1, 2, 5), 0);
+        due("3 stays, though another has its looks", web.part(1, 3, 5), -2);
+        due("7 came, 8 did, 9 never was", web.part(1, 7, 5) + web.part(1, 8, 5) + web.part(1, 9, 5), -6);
+        web.state(1, -1);
+        web.gone(0);
+        web.put(1, 2, 2);
+        due("0 to 1", web.part(2, 0, 5), 1);
     }
 
     private static void promise10() {
@@ -549,6 +580,7 @@ public final class PromisesTest {
         due("SHAPE 0 33", sure(web, shape), 3);
         due("SHAPE 0 33 of 15", web.span(shape, 15, 0, 0, false), 0);
         due("SORT 25 2", sure(web, web.of(1, 25, 2)), 6);
+        due("THERE 10 for any parts", web.span(web.of(0, 10, 0), 9, 8, 7, false), 3);
         due("SHAPE of one that is gone", sure(web, web.of(2, 10, 33)), 3);
         due("SORT 0 0 of one that never was", web.span(web.of(1, 0, 0), 7, 0, 0, true), 0);
         due("SHAPE 0 0 of one that never was", web.span(web.of(2, 0, 0), 7, 0, 0, true), 0);
@@ -613,6 +645,12 @@ public final class PromisesTest {
         due("REACH, not read: not sure", web.span(reach, 0, 2, 0, false), 1);
         due("REACH, not read: may", web.span(reach, 0, 2, 0, true), 3);
         due("REACH of a longer road", longRoad(), 15);
+        web = withParts(3);
+        web.link(0, 1, 0, true);
+        web.link(0, 0, 2, true);
+        due("REACH over 0", web.span(web.two(4, 0, 0, 1), 1, 2, 0, false), 1);
+        web.link(0, 0, 0, true);
+        due("LINK of 0 to 0", web.span(web.two(3, 0, 0, 1), 0, 0, 0, false), 1);
     }
 
     /** Part 15 first, over 14 and so on to 0: how many of them 15 reaches. */
@@ -736,6 +774,8 @@ public final class PromisesTest {
         due("SINCE NOT there", sure(web, web.term(13, not, there)), 0b111100);
         due("SINCE NOT there may", may(web, web.term(13, not, there)), 0b111110);
         due("SINCE there NOT", sure(web, web.term(13, there, not)), 0b111001);
+        web = chain(3, 0b001, 0);
+        due("EVER, from 0 on", sure(web, web.term(9, web.of(0, 0, 0), 0)), 0b111);
         web = chain(4, 0b1100, 0);
         due("FIRST", sure(web, web.term(11, web.of(0, 0, 0), 0)), 0b0100);
         due("FIRST may", may(web, web.term(11, 0, 0)), 0b0100);
@@ -791,6 +831,8 @@ public final class PromisesTest {
         int inner = web.term(7, web.of(1, 0, 0), web.term(14, 0, web.two(3, 0, 10, 0)));
         due("SOME within leaves the variable outside", web.span(inner, 9, 0, 0, false), 0);
         due("SOME within leaves the variable outside", web.span(inner, 3, 0, 0, false), 1);
+        due("SOME that leads to 0", web.span(web.term(14, 0, web.two(3, 0, 0, 1)), 0, 0, 0, false), 0);
+        due("SOME that leads to 1: 0 alone", web.span(web.term(14, 0, web.two(3, 0, 0, 1)), 9, 1, 0, false), 1);
         due("SOME of all 16 names", sure(web, web.term(14, 0, web.term(6, web.of(0, 0, 0), 0))), 5);
     }
 
@@ -822,10 +864,12 @@ public final class PromisesTest {
             due("told(" + term + ", 3)", web.told(term, 3), deep[term]);
         }
         due("SOME of a variable that is not free", web.told(web.term(14, 1, 3), 1), 5);
+        due("SINCE of several variables", web.told(web.term(13, 0, 1), 1), 5);
+        due("SINCE of several variables", web.told(web.term(13, 4, 1), 1), 6);
         due("deep by the second", web.told(web.term(7, 0, 13), 3), 9);
         due("deep by the first", web.told(web.term(7, 13, 0), 3), 9);
         due("told(-1, 0)", web.told(-1, 0), -1);
-        due("told(19, 0)", web.told(19, 0), -1);
+        due("told(21, 0)", web.told(21, 0), -1);
         due("told(0, -1)", web.told(0, -1), -1);
         due("told(0, 4)", web.told(0, 4), -1);
         web = new PastWeb();
@@ -867,6 +911,14 @@ public final class PromisesTest {
         web = chain(30, -1, 0);
         due("span of all 30 states", sure(web, web.of(0, 0, 0)), (1 << 30) - 1);
         due("NOT of all 30 states", may(web, web.term(6, 0, 0)), 0);
+        due("SORT of all 30 states", sure(web, web.of(1, 0, 0)), (1 << 30) - 1);
+        due("SHAPE of all 30 states", sure(web, web.of(2, 0, 0)), (1 << 30) - 1);
+        due("SINCE of all 30 states", sure(web, web.term(13, 0, web.term(11, 0, 0))), (1 << 30) - 1);
+        due("AHEAD of all 30 states", sure(web, web.term(12, 0, 0)), (1 << 30) - 2);
+        due("meet of 30", web.meet(29, 28), 1 << 28);
+        due("between of 30", web.between(0, 29), (1 << 30) - 1);
+        due("together of 30", web.together(0, 0, 0), 1);
+        due("roads of 30", Check.roads(web, 0, 29), "1");
     }
 
     private static int noStates() {
@@ -1032,6 +1084,7 @@ public final class PromisesTest {
         web.undo();
         web.read(false);
         due("by sure spans alone", web.apart(there, sort), -2);
+        due("by sure spans alone", web.apart(web.term(6, web.two(5, 0, 0, 0), 0), web.of(0, 19, 0)), -2);
         web.read(true);
         due("by sure spans", web.apart(there, sort), 2);
         web.state(-1, -1);
@@ -1235,6 +1288,7 @@ public final class PromisesTest {
         due("the bytes stay as they were", Check.element(web, 7, 14), "-1");
         due("keep a term", web.keep(0, 1, third), 0);
         due("weight", web.weight(0), 11);
+        due("no row any more", Check.element(web, 0, 0), "throws.IllegalStateException");
         due("keep nothing", web.keep(0, 0, MIN), 0);
         due("nothing", web.weight(0), -11);
         due("keep nothing again", web.keep(0, 0, MAX), 0);

@@ -2,7 +2,6 @@
 public final class RunsTest {
     private static final int CALLS = 512;
     private static final Check check = new Check();
-    private static final int[] times = new int[31];
 
     private long seed;
     private PastWeb web;
@@ -290,10 +289,10 @@ public final class RunsTest {
             if (below(150) == 0) {
                 which = 24;
             }
-            if ((which == 0 && states() > 12 || which > 11 && which < 15 && terms() > 30) && below(8) != 0) {
+            boolean isMany = which == 0 && states() > 12 || which > 11 && which < 15 && terms() > 30;
+            if (isMany && number % 4 != 0 && below(8) != 0) {
                 which = 16 + below(5);
             }
-            times[which]++;
             if (which < 12) {
                 callStates(which);
             } else if (which < 21) {
@@ -305,7 +304,7 @@ public final class RunsTest {
     }
 
     public static void main(String[] args) {
-        int runs = args.length > 0 ? Integer.parseInt(args[0]) : 60;
+        int runs = args.length > 0 ? Integer.parseInt(args[0]) : 300;
         int first = args.length > 1 ? Integer.parseInt(args[1]) : 0;
         for (int number = first; number < first + runs && check.wrong() == 0; number++) {
             new RunsTest(number).run(number);
