@@ -43,6 +43,20 @@ public final class EdgesOfStatesTest {
         due("a later one ahead, as second", web.state(0, 5), -1);
     }
 
+    private static void statesAsBits() {
+        check.says(0, "Sets of STATES are told as bits.");
+        PastWeb web = Webs.chain(30, 1 | 1 << 29, 0);
+        web.of(0, 0, 0);
+        due("before state 1: state 0", web.look(1, 2), 1);
+        due("before the last", web.look(29, 2), 0x1fffffff);
+        due("the first and the last", web.span(0, 0, 0, 0, false), 0x20000001);
+        due("the last of the wide span", web.span(0, 0, 0, 0, true), 0x20000001);
+        due("meet", web.meet(29, 29), 0x20000000);
+        due("between", web.between(28, 29), 0x30000000);
+        due("lines", web.lines(0x20000000), 0x20000000);
+        due("the empty set", web.between(29, 0), 0);
+    }
+
     private static void statesBefore() {
         check.says(0, "BEFORE a STATE are those AHEAD of it, and those BEFORE these");
         PastWeb web = Webs.chain(30, 0, 0);
@@ -71,6 +85,13 @@ public final class EdgesOfStatesTest {
             due("sort " + sort, web.part(0, sort, 0), sort);
             due("shape of sort " + sort, web.part(0, sort, 1), 99 - 33 * sort);
         }
+
+        check.says(0, "LINKS of kinds 0 (calls), 1 (reads), 2 (has)");
+        web = Webs.parts(2);
+        for (int kind = -1; kind < 4; kind++) {
+            due("a link of kind " + kind, web.link(kind, 0, 1, true), kind < 0 || kind > 2 ? -1 : 1);
+        }
+        due("one of each kind", web.look(0, 5), 3);
 
         check.says(0, "lead from PARTS to PARTS that are there (perhaps to itself)");
         web = Webs.parts(2);
@@ -679,6 +700,7 @@ public final class EdgesOfStatesTest {
 
     public static void main(String[] args) {
         numbersOfStates();
+        statesAsBits();
         statesBefore();
         partsOfStates();
         whatAStateHasAsItComes();

@@ -399,6 +399,22 @@ public final class EdgesOfTermsTest {
         return both(sure(web, term), may(web, term));
     }
 
+    private static void termsThatHaveRows() {
+        check.says(0, "ROWS of a TERM that has VARIABLES 0, 1 FREE at most, and a COST of 600 at most");
+        PastWeb web = Webs.parts(1);
+        due("of none", web.rows(web.two(5, 0, 10, 10), false), 1);
+        due("of 0", web.rows(web.two(5, 0, 0, 10), false), 1);
+        due("of 1", web.rows(web.two(5, 0, 10, 1), false), 1);
+        due("of 0 and 1", web.rows(web.two(5, 0, 0, 1), false), 16);
+        due("of 2", web.rows(web.two(5, 0, 10, 2), false), -4);
+        due("of 0 and 2", web.rows(web.two(5, 0, 0, 2), false), -4);
+        due("of 2 and 1", web.rows(web.two(5, 0, 2, 1), false), -4);
+        int dear = Webs.costing(web, 599, 1);
+        due("of COST 599", web.rows(dear, false), 15);
+        due("of COST 600", web.rows(web.term(6, dear, 0), false), 1);
+        due("of COST 601", web.rows(web.term(8, dear, 0), false), -5);
+    }
+
     private static void rowsOfTerms() {
         check.says(0, "PARTS (of all 16 names) in place of 0 and 1 (0 where one isn't FREE), by numbers, 0's first, told as 16 * "
                 + "that of 0 and that of 1");
@@ -805,6 +821,7 @@ public final class EdgesOfTermsTest {
         some();
         costsAndSpans();
         sureAndMay();
+        termsThatHaveRows();
         rowsOfTerms();
         promise14();
         promise15();
