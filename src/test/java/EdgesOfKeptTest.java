@@ -216,9 +216,16 @@ public final class EdgesOfKeptTest {
             due("behind it", news(web, 0), "0 0 0 0");
             due("fresh again", web.fresh(0, what), 0);
         }
+        due("none of that kind, but FRESHENED", freshenedForNone(), 0);
         refusedOnes("fresh", (web, kept, what) -> web.fresh(kept, what));
         due("the last of 6", Webs.full().fresh(5, 3), 0);
         due("a row LONGER by three states is one", longer(3).fresh(0, 2), 1);
+    }
+
+    /** No row is GONE, but one is LONGER: it is not behind that call. */
+    private static int freshenedForNone() {
+        PastWeb web = longer(1);
+        return web.fresh(0, 1) + web.news(0, 2);
     }
 
     private static void promise25() {

@@ -286,6 +286,28 @@ public final class EdgesOfStatesTest {
         due("the lower number first, to the least", web.part(1, 4, 5), 0);
         due("the next one, to the next", web.part(1, 8, 5), 15);
         wentByLooks(web);
+        wentOrStays();
+    }
+
+    private static void wentOrStays() {
+        PastWeb web = Webs.parts(4);
+        web.put(1, 3, 3);
+        web.state(0, -1);
+        web.gone(1);
+        web.gone(3);
+        web.put(15, 0, 0);
+        due("to none: no such looks", web.part(1, 1, 5), -2);
+        due("one that stays does not go, though it could", web.part(1, 2, 5), -2);
+        due("nor takes another's place", web.part(1, 3, 5), 15);
+        web = Webs.parts(3);
+        web.put(1, 3, 3);
+        web.gone(0);
+        web.state(0, -1);
+        web.gone(1);
+        web.gone(2);
+        web.put(0, 0, 0);
+        due("to none", web.part(1, 1, 5), -2);
+        due("that takes none from the next one", web.part(1, 2, 5), 0);
     }
 
     private static void wentByLooks(PastWeb web) {
@@ -497,6 +519,17 @@ public final class EdgesOfStatesTest {
         web.undo();
         web.state(-1, -1);
         due("nothing of the one that went", web.look(0, 4) + web.look(0, 5) + web.look(0, 6), 0);
+        web.state(0, -1);
+        web.undo();
+        web.state(-1, -1);
+        due("none ahead of it, nor before it", web.look(1, 0) + web.look(1, 1) + web.look(1, 2), -4);
+        int ahead = web.term(12, web.two(5, 0, 0, 0), 0);
+        due("AHEAD", web.span(ahead, 0, 0, 0, false), 0);
+        int there = web.of(0, 0, 0);
+        web.put(0, 0, 0);
+        due("THERE", web.span(there, 0, 0, 0, true) + web.rows(there, true), 3);
+        web.undo();
+        due("THERE behind undo", web.span(there, 0, 0, 0, true) + web.rows(there, true), 0);
     }
 
     private static PastWeb keptWithoutStates() {
@@ -639,6 +672,13 @@ public final class EdgesOfStatesTest {
         web.state(0, 1);
         web.state(1, 0);
         due("two of them", web.meet(2, 3), 3);
+        web = Webs.none();
+        web.state(-1, -1);
+        web.state(0, -1);
+        web.state(-1, -1);
+        web.state(1, 2);
+        web.state(2, 1);
+        due("the first is before one of them, the last is not", web.meet(3, 4), 6);
         for (int[] w : new int[][] {{-1, 0}, {0, -1}, {3, 0}, {0, 3}, {MIN, 0}, {0, MIN}, {MAX, 0}, {0, MAX}, {-1, -1}, {3, 3}}) {
             check.refused(at("meet", w), Webs::busy, made -> made.meet(w[0], w[1]), -1);
         }

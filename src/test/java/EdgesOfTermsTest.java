@@ -56,6 +56,8 @@ public final class EdgesOfTermsTest {
         due("1 is what stands for it", web.span(web.of(0, 1, 0), 0, 15, 0, false), 1);
         due("2 is what stands for it", web.span(web.of(0, 2, 0), 0, 0, 15, false), 1);
         due("1 is not 2", web.span(web.of(0, 1, 0), 0, 0, 15, false), 0);
+        due("10 is part 0, whatever stands for 2", web.span(web.two(5, 0, 10, 2), 0, 0, 15, false), 0);
+        due("25 is part 15, whatever stands for 0", web.span(web.two(5, 0, 25, 0), 0, 15, 15, false), 0);
     }
 
     private static void termsOfOnePart() {
@@ -79,6 +81,10 @@ public final class EdgesOfTermsTest {
         due("a shape it never had", sure(web, web.of(2, 0, 98)), 0);
         due("sort 0 of one that never was", web.span(0, 5, 0, 0, false), 0);
         due("shape 0 of one that never was", web.span(1, 5, 0, 0, false), 0);
+        web = Webs.chain(30, ALL, 0);
+        due("THERE of 30", sure(web, web.of(0, 10, 0)), ALL);
+        due("SORT of 30", sure(web, web.of(1, 10, 0)), ALL);
+        due("SHAPE of 30", sure(web, web.of(2, 10, 0)), ALL);
     }
 
     private static PastWeb noStates() {
@@ -271,6 +277,13 @@ public final class EdgesOfTermsTest {
         }
         PastWeb web = Webs.parts(16);
         due("none", sure(web, web.term(14, 0, web.term(6, web.of(0, 0, 0), 0))), 0);
+        web.link(0, 0, 1, true);
+        int leads = web.term(14, 0, web.two(3, 0, 0, 1));
+        int isLed = web.term(14, 1, web.two(3, 0, 2, 1));
+        for (int part = 0; part < 16; part++) {
+            due("some leads to " + part, web.span(leads, 0, part, 0, false), part == 1 ? 1 : 0);
+            due("some is led to from " + part, web.span(isLed, 0, 0, part, false), part == 0 ? 1 : 0);
+        }
 
         check.says(0, "FREE are VARIABLES that stand in a TERM, but not where SOME v has them.");
         web = Webs.none();
@@ -385,8 +398,15 @@ public final class EdgesOfTermsTest {
         due("EITHER of it or not, may", may(web, web.term(8, there, not)), 0b1111);
         due("SINCE, sure", sure(web, web.term(13, not, there)), 0b0011);
         due("SINCE, may", may(web, web.term(13, not, there)), 0b1111);
+        int never = web.two(5, 0, 10, 11);
+        due("SINCE by what b may", may(web, web.term(13, never, there)), 0b0101);
         due("SOME, sure", sure(web, web.term(14, 0, there)), 0b0001);
         due("SOME, may", may(web, web.term(14, 0, there)), 0b0101);
+        web = Webs.chain(3, 0, 0b010);
+        int begin = web.term(6, web.term(12, web.two(5, 0, 0, 0), 0), 0);
+        int since = web.term(13, web.of(0, 0, 0), begin);
+        due("SINCE by what a may", may(web, since), 0b011);
+        due("SINCE by what a is SURE", sure(web, since), 0b001);
     }
 
     private static long both(int sure, int may) {
@@ -669,6 +689,45 @@ public final class EdgesOfTermsTest {
         due("span of 601, z wrong", web.span(dearer, 0, 0, 16, true), -1);
         check.refused("span of 785", Webs::busy, made -> made.span(Webs.DEAR, 0, 0, 0, true), -5);
         due("span of 601 of no states", tooDearOfNone(), -5);
+        deepest();
+        lastOf512();
+    }
+
+    /** 60 terms, each of the one told before it. */
+    private static void deepest() {
+        int odd = 0x2aaaaaaa;
+        int[] due = {odd ^ ALL, odd, odd, ALL - 1, 0, 2, 0, odd};
+        for (int kind = 6; kind < 14; kind++) {
+            PastWeb web = Webs.chain(30, odd, 0);
+            web.of(0, 0, 0);
+            for (int i = 0; i < 59; i++) {
+                web.term(kind, i, 0);
+            }
+            due("deep", web.told(59, 3), 60);
+            due("span of the deepest of kind " + kind, sure(web, 59), due[kind - 6]);
+            due("wide span of the deepest of kind " + kind, may(web, 59), due[kind - 6]);
+        }
+    }
+
+    /** An object is used for at most 512 calls: the last of so many, each of them dear, is answered as any. */
+    private static void lastOf512() {
+        PastWeb web = new PastWeb();
+        for (int i = 0; i < 30; i++) {
+            web.state(i - 1, i < 2 ? -1 : i - 2);
+            web.put(i % 16, 0, 0);
+        }
+        int calls = 60;
+        int dear = Webs.costing(web, 598, 0);
+        dear = web.term(8, dear, web.of(0, 1, 0));
+        calls += web.count(1);
+        for (int i = 0; calls < 510; i++) {
+            web.read(i % 2 != 0);
+            web.rows(dear, i % 3 == 0);
+            calls += 2;
+        }
+        web.read(true);
+        due("rows, the last call", web.rows(dear, false), 256);
+        due("the COST", web.told(dear, 2), 600);
     }
 
     private static int tooDearOfNone() {
@@ -782,7 +841,7 @@ public final class EdgesOfTermsTest {
         due("for part 15 in place of 1 alone", web.apart(web.two(5, 0, 1, 25), web.two(5, 0, 10, 25)), 0);
         due("for one pair of 256", web.apart(web.term(7, last, web.two(5, 0, 1, 25)), web.two(5, 0, 10, 25)), 0);
         web.read(false);
-        due("by spans, not by wide ones", web.apart(part, never), -2);
+        due("by spans, not by wide ones", web.apart(part, web.two(5, 0, 10, 11)), -2);
         PastWeb none = Webs.none();
         due("of no states", none.apart(none.of(0, 0, 0), none.two(5, 0, 0, 1)), -2);
         apartRefused();
