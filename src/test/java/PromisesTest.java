@@ -12,44 +12,6 @@ public final class PromisesTest {
         check.due(call, got, want);
     }
 
-    /** State 0 with parts 0 .. n - 1, of sort 0 and shape 0. */
-    private static PastWeb withParts(int n) {
-        PastWeb web = new PastWeb();
-        web.state(-1, -1);
-        for (int part = 0; part < n; part++) {
-            web.put(part, 0, 0);
-        }
-        return web;
-    }
-
-    /** 0 and 1 behind it; 2 and 3 behind 1; 4 behind 3 and 2; 5 alone; 6 behind 4 and 5. */
-    private static PastWeb net() {
-        PastWeb web = new PastWeb();
-        web.state(-1, -1);
-        web.state(0, -1);
-        web.state(1, -1);
-        web.state(1, -1);
-        web.state(3, 2);
-        web.state(-1, -1);
-        web.state(4, 5);
-        return web;
-    }
-
-    /** Each state behind the one ahead of it; part 0 is there in those of the set, read all but those of another. */
-    private static PastWeb chain(int states, int there, int unread) {
-        PastWeb web = new PastWeb();
-        for (int i = 0; i < states; i++) {
-            web.state(i - 1, -1);
-            if ((there >> i & 1) != 0) {
-                web.put(0, 0, 0);
-            } else {
-                web.gone(0);
-            }
-            web.read((unread >> i & 1) == 0);
-        }
-        return web;
-    }
-
     private static int sure(PastWeb web, int term) {
         return web.span(term, 0, 0, 0, false);
     }
@@ -290,7 +252,7 @@ public final class PromisesTest {
     }
 
     private static void promise8() {
-        PastWeb web = net();
+        PastWeb web = Webs.net();
         int[][] due = {{-2, -2, 0}, {0, -2, 1}, {1, -2, 3}, {1, -2, 3}, {3, 2, 15}, {-2, -2, 0}, {4, 5, 63}};
         for (int state = 0; state < 7; state++) {
             for (int what = 0; what < 3; what++) {
@@ -336,7 +298,7 @@ public final class PromisesTest {
     }
 
     private static void changedBesides() {
-        PastWeb web = withParts(3);
+        PastWeb web = Webs.parts(3);
         web.link(1, 0, 2, true);
         web.state(0, -1);
         web.gone(2);
@@ -347,7 +309,7 @@ public final class PromisesTest {
         due("changed by the first ahead, read or not", web.look(2, 6), 5);
         web.state(0, 1);
         due("changed by the first ahead", web.look(3, 6), 0);
-        web = withParts(2);
+        web = Webs.parts(2);
         web.link(0, 0, 1, true);
         web.state(0, -1);
         web.link(0, 0, 1, false);
@@ -440,7 +402,7 @@ public final class PromisesTest {
     }
 
     private static void promise10() {
-        PastWeb web = net();
+        PastWeb web = Webs.net();
         due("roads(0, 6)", Check.roads(web, 0, 6), "2");
         due("roads(1, 4)", Check.roads(web, 1, 4), "2");
         due("roads(0, 2)", Check.roads(web, 0, 2), "1");
@@ -467,7 +429,7 @@ public final class PromisesTest {
     }
 
     private static void promise11() {
-        PastWeb web = net();
+        PastWeb web = Webs.net();
         due("meet(2, 3)", web.meet(2, 3), 2);
         due("meet(4, 2)", web.meet(4, 2), 4);
         due("meet(4, 4)", web.meet(4, 4), 16);
@@ -488,7 +450,7 @@ public final class PromisesTest {
     }
 
     private static void promise12() {
-        PastWeb web = net();
+        PastWeb web = Webs.net();
         due("between(0, 6)", web.between(0, 6), 0x5f);
         due("between(1, 4)", web.between(1, 4), 0x1e);
         due("between(1, 3)", web.between(1, 3), 10);
@@ -613,7 +575,7 @@ public final class PromisesTest {
     }
 
     private static void twoHolds() {
-        PastWeb web = withParts(5);
+        PastWeb web = Webs.parts(5);
         web.link(1, 0, 1, true);
         web.link(1, 1, 2, true);
         web.link(1, 2, 1, true);
@@ -645,7 +607,7 @@ public final class PromisesTest {
         due("REACH, not read: not sure", web.span(reach, 0, 2, 0, false), 1);
         due("REACH, not read: may", web.span(reach, 0, 2, 0, true), 3);
         due("REACH of a longer road", longRoad(), 15);
-        web = withParts(3);
+        web = Webs.parts(3);
         web.link(0, 1, 0, true);
         web.link(0, 0, 2, true);
         due("REACH over 0", web.span(web.two(4, 0, 0, 1), 1, 2, 0, false), 1);
@@ -655,7 +617,7 @@ public final class PromisesTest {
 
     /** Part 15 first, over 14 and so on to 0: how many of them 15 reaches. */
     private static int longRoad() {
-        PastWeb web = withParts(16);
+        PastWeb web = Webs.parts(16);
         for (int part = 15; part > 0; part--) {
             web.link(2, part, part - 1, true);
         }
@@ -760,7 +722,7 @@ public final class PromisesTest {
     }
 
     private static void timedTerms() {
-        PastWeb web = chain(6, 0b010100, 0b000010);
+        PastWeb web = Webs.chain(6, 0b010100, 0b000010);
         int there = web.of(0, 0, 0);
         int not = web.term(6, there, 0);
         due("EVER", sure(web, web.term(9, there, 0)), 0b111100);
@@ -774,9 +736,9 @@ public final class PromisesTest {
         due("SINCE NOT there", sure(web, web.term(13, not, there)), 0b111100);
         due("SINCE NOT there may", may(web, web.term(13, not, there)), 0b111110);
         due("SINCE there NOT", sure(web, web.term(13, there, not)), 0b111001);
-        web = chain(3, 0b001, 0);
+        web = Webs.chain(3, 0b001, 0);
         due("EVER, from 0 on", sure(web, web.term(9, web.of(0, 0, 0), 0)), 0b111);
-        web = chain(4, 0b1100, 0);
+        web = Webs.chain(4, 0b1100, 0);
         due("FIRST", sure(web, web.term(11, web.of(0, 0, 0), 0)), 0b0100);
         due("FIRST may", may(web, web.term(11, 0, 0)), 0b0100);
         timedOverTwo();
@@ -809,7 +771,7 @@ public final class PromisesTest {
     }
 
     private static void someTerms() {
-        PastWeb web = withParts(4);
+        PastWeb web = Webs.parts(4);
         web.link(0, 0, 1, true);
         web.link(0, 1, 2, true);
         web.state(0, -1);
@@ -881,7 +843,7 @@ public final class PromisesTest {
     }
 
     private static void promise18() {
-        PastWeb web = withParts(2);
+        PastWeb web = Webs.parts(2);
         web.put(2, 1, 7);
         web.link(0, 0, 2, true);
         int term = web.term(7, web.two(3, 0, 0, 2), web.of(0, 1, 0));
@@ -900,7 +862,7 @@ public final class PromisesTest {
         int closed = web.of(0, 12, 0);
         due("x, y, z of a term without variables", web.span(closed, 16, 0, 0, false), -1);
         due("a term without variables", web.span(closed, 9, 9, 9, false), 1);
-        int dear = costing(web, 600);
+        int dear = Webs.costing(web, 600, 0);
         due("COST", web.told(dear, 2), 600);
         due("span of COST 600", web.span(dear, 0, 0, 0, false) >= 0 ? 1 : 0, 1);
         int dearer = web.term(6, dear, 0);
@@ -908,7 +870,7 @@ public final class PromisesTest {
         due("span of COST 601, wide", web.span(dearer, 0, 0, 0, true), -5);
         due("span of COST 601, x wrong", web.span(dearer, 16, 0, 0, true), -1);
         due("span of no states", noStates(), 0);
-        web = chain(30, -1, 0);
+        web = Webs.chain(30, -1, 0);
         due("span of all 30 states", sure(web, web.of(0, 0, 0)), (1 << 30) - 1);
         due("NOT of all 30 states", may(web, web.term(6, 0, 0)), 0);
         due("SORT of all 30 states", sure(web, web.of(1, 0, 0)), (1 << 30) - 1);
@@ -927,27 +889,8 @@ public final class PromisesTest {
         return web.span(0, 0, 0, 0, true) + web.span(1, 0, 0, 0, true);
     }
 
-    /** A term of that cost, with variable 0 free. */
-    private static int costing(PastWeb web, int cost) {
-        int term = web.of(0, 0, 0);
-        while (2 * web.told(term, 2) + 1 <= cost) {
-            term = web.term(7, term, term);
-        }
-        int one = web.of(0, 0, 0);
-        for (int step = 8; step > 0; step--) {
-            int part = one;
-            for (int i = 1; i < step; i++) {
-                part = web.term(7, part, part);
-            }
-            while (web.told(term, 2) + web.told(part, 2) + 1 <= cost) {
-                term = web.term(8, term, part);
-            }
-        }
-        return web.told(term, 2) < cost ? web.term(6, term, 0) : term;
-    }
-
     private static void promise19() {
-        PastWeb web = net();
+        PastWeb web = Webs.net();
         due("lines(0)", web.lines(0), 0);
         due("lines of all", web.lines(0x7f), 0x21);
         due("lines of 2, 3, 4, 6", web.lines(0x5c), 0x0c);
@@ -962,13 +905,13 @@ public final class PromisesTest {
         due("lines(MAX)", web.lines(MAX), -1);
         due("lines(0) of none", new PastWeb().lines(0), 0);
         due("lines(1) of none", new PastWeb().lines(1), -1);
-        web = chain(30, 0, 0);
+        web = Webs.chain(30, 0, 0);
         due("lines of the last of 30", web.lines(1 << 29), 1 << 29);
         due("lines(1 << 30) of 30", web.lines(1 << 30), -1);
     }
 
     private static void promise20() {
-        PastWeb web = withParts(3);
+        PastWeb web = Webs.parts(3);
         web.link(0, 0, 1, true);
         web.link(0, 2, 1, true);
         int link = web.two(3, 0, 0, 1);
@@ -1002,8 +945,8 @@ public final class PromisesTest {
     }
 
     private static void rowsTooDear() {
-        PastWeb web = withParts(1);
-        int dear = costing(web, 600);
+        PastWeb web = Webs.parts(1);
+        int dear = Webs.costing(web, 600, 0);
         due("rows of COST 600", web.rows(dear, false) >= 0 ? 1 : 0, 1);
         int dearer = web.term(6, dear, 0);
         int third = web.term(7, dear, web.of(0, 2, 0));
@@ -1025,7 +968,7 @@ public final class PromisesTest {
     }
 
     private static void promise21() {
-        PastWeb web = withParts(3);
+        PastWeb web = Webs.parts(3);
         web.link(0, 2, 0, true);
         web.link(0, 0, 2, true);
         web.link(0, 0, 1, true);
@@ -1056,7 +999,7 @@ public final class PromisesTest {
     }
 
     private static void promise22() {
-        PastWeb web = withParts(2);
+        PastWeb web = Webs.parts(2);
         int there = web.of(0, 0, 0);
         int sort = web.of(1, 0, 0);
         int second = web.of(0, 1, 0);
@@ -1095,7 +1038,7 @@ public final class PromisesTest {
     }
 
     private static void promise23() {
-        PastWeb web = withParts(2);
+        PastWeb web = Webs.parts(2);
         int there = web.of(0, 0, 0);
         int third = web.of(0, 2, 0);
         due("keepTerm(-1)", web.keepTerm(-1), -1);
@@ -1108,7 +1051,7 @@ public final class PromisesTest {
         due("keepTerm of 6", web.keepTerm(there), -2);
         due("keepTerm of 6, no term", web.keepTerm(2), -1);
         due("keepTerm of 6, VARIABLE 2", web.keepTerm(third), -4);
-        int dearer = web.term(6, costing(web, 600), 0);
+        int dearer = web.term(6, Webs.costing(web, 600, 0), 0);
         due("keepTerm of 6, too dear", web.keepTerm(dearer), -5);
         due("six are kept", web.count(2), 6);
         web.forget();
@@ -1122,7 +1065,7 @@ public final class PromisesTest {
 
     /** Kept over states 0 and 1: part 0 in both, 1 in 0, 2 in 0, 3 in 1, 4 in none; then 1 changes. */
     private static PastWeb changing() {
-        PastWeb web = withParts(3);
+        PastWeb web = Webs.parts(3);
         web.state(0, -1);
         web.gone(1);
         web.gone(2);
@@ -1197,7 +1140,7 @@ public final class PromisesTest {
     }
 
     private static void newsOfOthers() {
-        PastWeb web = withParts(1);
+        PastWeb web = Webs.parts(1);
         int either = web.term(8, web.of(1, 0, 1), web.of(1, 0, 2));
         web.put(0, 1, 0);
         web.keepTerm(either);
@@ -1214,7 +1157,7 @@ public final class PromisesTest {
 
     /** A span of as many states, but others. */
     private static void sameLength() {
-        PastWeb web = withParts(1);
+        PastWeb web = Webs.parts(1);
         int sort = web.of(1, 0, 0);
         web.keepTerm(sort);
         due("span", sure(web, sort), 1);
@@ -1255,7 +1198,7 @@ public final class PromisesTest {
     }
 
     private static void promise28() {
-        PastWeb web = withParts(2);
+        PastWeb web = Webs.parts(2);
         web.put(15, 0, 99);
         web.state(0, -1);
         web.gone(0);
@@ -1330,7 +1273,7 @@ public final class PromisesTest {
     }
 
     private static void promise30() {
-        PastWeb web = withParts(1);
+        PastWeb web = Webs.parts(1);
         web.put(0, 0, 77);
         web.of(0, 0, 0);
         web.keep(0, 4, 0);
@@ -1366,39 +1309,31 @@ public final class PromisesTest {
         return web;
     }
 
-    private static String held(PastWeb web, int d, int n) {
-        StringBuilder all = new StringBuilder();
-        for (int i = 0; i < n; i++) {
-            all.append(i == 0 ? "" : " ").append(Check.element(web, d, i));
-        }
-        return all.toString();
-    }
-
     private static void promise31() {
         PastWeb web = shelves();
-        due("shelf 0", held(web, 0, 4), "1 2 3 4");
+        due("shelf 0", Told.row(web, 0, 4), "1 2 3 4");
         due("copy(0, 1, 2, 3, 3)", web.copy(0, 1, 2, 3, 3), 3);
-        due("shelf 2", held(web, 2, 6), "0 0 0 2 3 4");
+        due("shelf 2", Told.row(web, 2, 6), "0 0 0 2 3 4");
         due("copy to itself, on", web.copy(0, 0, 0, 1, 3), 3);
-        due("as they all were before", held(web, 0, 4), "1 1 2 3");
+        due("as they all were before", Told.row(web, 0, 4), "1 1 2 3");
         due("copy to itself, back", web.copy(0, 1, 0, 0, 3), 3);
-        due("as they all were before", held(web, 0, 4), "1 2 3 3");
+        due("as they all were before", Told.row(web, 0, 4), "1 2 3 3");
         web.make(5, 4, 3);
         due("copy of bytes", web.copy(1, 13, 5, 0, 3), 3);
-        due("shelf 5", held(web, 5, 3), "23 24 25");
+        due("shelf 5", Told.row(web, 5, 3), "23 24 25");
         due("copy of bytes to itself", web.copy(1, 0, 1, 1, 15), 15);
-        due("shelf 1", held(web, 1, 4), "10 10 11 12");
+        due("shelf 1", Told.row(web, 1, 4), "10 10 11 12");
         due("copy of none at the ends", web.copy(0, 4, 2, 6, 0), 0);
         due("copy of all", web.copy(2, 0, 2, 0, 6), 6);
         copyRefused(web);
         web = shelves();
         web.keep(4, 3, 0);
         web.copy(2, 0, 4, 0, 4);
-        due("two shelves do not share a row", held(web, 0, 4), "1 2 3 4");
+        due("two shelves do not share a row", Told.row(web, 0, 4), "1 2 3 4");
     }
 
     private static void copyRefused(PastWeb web) {
-        String before = held(web, 0, 4) + held(web, 2, 6) + held(web, 1, 16);
+        String before = Told.row(web, 0, 4) + Told.row(web, 2, 6) + Told.row(web, 1, 16);
         due("copy(-1)", web.copy(-1, 0, 0, 0, 1), -1);
         due("copy to 8", web.copy(0, 0, 8, 0, 1), -1);
         due("copy of nothing", web.copy(6, 0, 0, 0, 1), -11);
@@ -1418,7 +1353,7 @@ public final class PromisesTest {
         for (int[] w : wrong) {
             due("copy(0, " + w[0] + ", 2, " + w[1] + ", " + w[2] + ")", web.copy(0, w[0], 2, w[1], w[2]), -13);
         }
-        due("nothing changed", held(web, 0, 4) + held(web, 2, 6) + held(web, 1, 16), before);
+        due("nothing changed", Told.row(web, 0, 4) + Told.row(web, 2, 6) + Told.row(web, 1, 16), before);
     }
 
     private static PastWeb allKinds() {
@@ -1481,39 +1416,9 @@ public final class PromisesTest {
         due("toss of bytes", web.toss(0), -12);
     }
 
-    /** All that can be asked of a small object, as a text. */
-    private static String all(PastWeb web) {
-        StringBuilder all = new StringBuilder();
-        for (int what = 0; what < 3; what++) {
-            all.append(web.count(what)).append(' ');
-        }
-        for (int state = 0; state < 2; state++) {
-            for (int what = 0; what < 7; what++) {
-                all.append(web.look(state, what)).append(' ');
-            }
-            for (int part = 0; part < 5; part++) {
-                for (int what = 0; what < 6; what++) {
-                    all.append(web.part(state, part, what)).append(' ');
-                }
-            }
-        }
-        for (int term = 0; term < 3; term++) {
-            all.append(web.told(term, 0)).append(' ').append(web.span(term, 1, 2, 0, true)).append(' ');
-        }
-        for (int kept = 0; kept < 2; kept++) {
-            for (int what = 0; what < 4; what++) {
-                all.append(web.news(kept, what)).append(' ');
-            }
-        }
-        for (int d = 0; d < 4; d++) {
-            all.append(web.weight(d)).append(' ').append(held(web, d, 3)).append(' ');
-        }
-        return all.toString();
-    }
-
     /** Two states, three terms, one kept, and something on three shelves. */
     private static PastWeb small() {
-        PastWeb web = withParts(3);
+        PastWeb web = Webs.parts(3);
         web.link(0, 1, 2, true);
         web.of(0, 0, 0);
         web.two(3, 0, 0, 1);
@@ -1531,7 +1436,7 @@ public final class PromisesTest {
 
     private static void refusedCallsChangeNothing() {
         PastWeb web = small();
-        String before = all(small());
+        String before = Told.all(small());
         long refused = 0;
         int[] answers = {
             web.state(5, -1), web.state(1, 1), web.put(1, 4, 1), web.put(16, 1, 1), web.put(1, 1, 100), web.gone(0),
@@ -1546,12 +1451,12 @@ public final class PromisesTest {
             refused += answer < 0 ? 1 : 0;
         }
         due("refused calls", refused, answers.length);
-        due("all answers behind refused calls", all(web), before);
+        due("all answers behind refused calls", Told.all(web), before);
     }
 
     private static void deepTermsAnswer() {
         for (int kind : new int[] {6, 9, 10, 11, 12}) {
-            PastWeb web = chain(30, 0x2aaaaaaa, 0);
+            PastWeb web = Webs.chain(30, 0x2aaaaaaa, 0);
             web.of(0, 0, 0);
             for (int i = 0; i < 59; i++) {
                 web.term(kind, i, 0);
