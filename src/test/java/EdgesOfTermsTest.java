@@ -284,6 +284,14 @@ public final class EdgesOfTermsTest {
             due("some leads to " + part, web.span(leads, 0, part, 0, false), part == 1 ? 1 : 0);
             due("some is led to from " + part, web.span(isLed, 0, 0, part, false), part == 0 ? 1 : 0);
         }
+        int leadsToo = web.term(14, 2, web.two(3, 0, 2, 1));
+        int leadsTo1 = web.term(14, 0, web.two(3, 0, 0, 11));
+        for (int p = 0; p < 16; p++) {
+            due("whatever stands for 0", web.span(leads, p, 1, 0, false), 1);
+            due("whatever stands for 0, without others", web.span(leadsTo1, p, 0, 0, false), 1);
+            due("whatever stands for 1", web.span(isLed, 0, p, 0, false), 1);
+            due("whatever stands for 2", web.span(leadsToo, 0, 1, p, false), 1);
+        }
 
         check.says(0, "FREE are VARIABLES that stand in a TERM, but not where SOME v has them.");
         web = Webs.none();
